@@ -1130,8 +1130,9 @@ public final class RopeRanks {
             Arrays.fill(most, UNBOUND);
             most[other] = 0;
             long saying = records.saying();
-            for (int i = 0; i < PLAYERS && tighten(saying); i++) {
-                continue;
+            boolean lowered = true;
+            for (int i = 0; i < PLAYERS && lowered; i++) {
+                lowered = tighten(saying);
             }
             return most[one];
         }

@@ -136,6 +136,9 @@ public final class PromisesTest {
         due("end -1", x.meeting(0, 0, 1, -1, false), RopeRanks.BAD);
         due("end 3", x.meeting(0, 0, 1, 3, false), RopeRanks.BAD);
         due("none came", x.count(1), 0);
+        RopeRanks y = withPlayers(2);
+        due("year 7", y.meeting(7, 0, 1, 0, false), 0);
+        due("earlier than the first", y.meeting(6, 0, 1, 0, false), RopeRanks.BAD);
         due("year 0", x.meeting(0, 0, 1, 0, false), 0);
         due("year 5", x.meeting(5, 1, 0, 1, true), 1);
         due("earlier", x.meeting(4, 0, 1, 0, false), RopeRanks.BAD);
@@ -358,6 +361,10 @@ public final class PromisesTest {
         change("0|7", 2, 1);
         change("5&7", 2, 1);
         change("5&0", 2, 0);
+        change("1&5", 2, 1);
+        change("0&5", 2, 0);
+        change("1&1", 2, 1);
+        change("1|1", 2, 1);
         change("1|0&0", 2, 1);
         change("(1|0)&0", 2, 0);
         change("!5", 2, 0);
@@ -484,6 +491,13 @@ public final class PromisesTest {
         due("52 apart", x.foretold(1), 4);
         x.mark(2, 1, true);
         due("doubted ones count", x.foretold(1), 4);
+        x = withPlayers(2);
+        text(x, 0, "(e>1)*51");
+        x.meeting(1, 0, 1, 2, false);
+        x.meeting(1, 0, 1, 1, false);
+        due("51 apart", x.foretold(0), 0);
+        text(x, 0, "(e>1)*50");
+        due("50 apart", x.foretold(0), 1);
     }
 
     private static void bestSystem() {
@@ -527,6 +541,14 @@ public final class PromisesTest {
         due("younger than 0", x.span(0, 1, 0), -2);
         x.shape(110, 10);
         due("as of that age", x.span(0, 1, 0), 8);
+        x.mark(0, 1, true);
+        x.mark(1, 0, false);
+        // the second one is of the ages 39 and 159: 0 less 1 is -41 .. 59
+        due("of the greatest age", x.span(0, 1, 0), -50 + 9);
+        due("of the greatest age", x.span(0, 1, 1), 50 + 9);
+        x.shape(39, 2);
+        due("both ages", x.span(0, 1, 0), -50 + 9 - 2);
+        due("both ages", x.span(0, 1, 1), 50 + 9 - 2);
     }
 
     private static void wide() {
@@ -985,6 +1007,10 @@ public final class PromisesTest {
         x.weight(2, 7);
         due("put right by others", x.share(0, 1), 1);
         fraction("put right by others", x, 8, 27);
+        x.moves(1, 0, 1, 1);
+        x.moves(1, 3, 0, 2);
+        due("of one move", x.share(1, 1), 1);
+        fraction("of one move", x, 9, 10);
         x.moves(0, 0, 97, 98);
         x.moves(0, 1, 94, 95);
         x.moves(0, 2, 96, 97);
@@ -1080,6 +1106,49 @@ public final class PromisesTest {
         x.share(1, 0);
         x.from(1);
         fraction("the fraction stands", x, 3, 4);
+        fromOverOthers();
+    }
+
+    /** Two pasts that differ in every row: each comes back whole. */
+    private static void fromOverOthers() {
+        RopeRanks x = new RopeRanks();
+        x.image(0);
+        long[] digests = new long[2];
+        for (int past = 0; past < 2; past++) {
+            x.from(0);
+            for (int p = 0; p < 10; p++) {
+                x.player(p + 20 * past);
+                for (int hard = 0; hard < 4; hard++) {
+                    x.moves(p, hard, p + past, 50 + p + hard + past);
+                }
+            }
+            for (int i = 0; i < 60; i++) {
+                x.meeting(i + 30 * past, i % 5 + 5 * past, (i + 1) % 5 + 5 * past, (i + past) % 3, i % 2 == past);
+                x.mark(i, 1, i % 3 == past);
+            }
+            for (int i = 0; i < 50; i++) {
+                for (int system = 0; system < 4; system++) {
+                    x.write(system, 'a' + past + system + i % 7);
+                }
+            }
+            for (int system = 0; system < 4; system++) {
+                x.first(system, 50 * system + past);
+                x.weight(system, 1 + system + past);
+            }
+            for (int age = 0; age < 160; age++) {
+                x.shape(age, age + past);
+            }
+            x.wide(70 + past, 80 + past);
+            digests[past] = x.digest();
+            if (past == 0) {
+                x.image(1);
+            }
+        }
+        due("the second past", x.digest() == digests[0] ? 1 : 0, 0);
+        x.from(1);
+        due("the first past", x.digest(), digests[0]);
+        x.from(0);
+        due("nothing at all", x.digest(), new RopeRanks().digest());
     }
 
     private static void count() {
