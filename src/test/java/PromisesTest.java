@@ -380,6 +380,13 @@ public final class PromisesTest {
         change("5", 2, 5);
         change(" 1 2", 2, 0);
         change("( ( e ) )", 2, 2);
+        // texts of full length
+        change("!".repeat(48) + "x", 2, 1);
+        change("!".repeat(49) + "x", 2, 0);
+        change("-".repeat(49) + "e", 2, -2);
+        change("1+".repeat(24) + "10", 2, 34);
+        change("-e".repeat(25), 2, -50);
+        change("((((((((1+2)*3)*3)-1)*2)-9)<500)|0)-g*(m+(y+1))*3", 2, 1);
         // longs wrap: 999999 cubed is above 2^59 and below 2^60, so times 16 it is beyond a long
         change("999999*999999*999999*16>0", 2, 999999L * 999999 * 999999 * 16 > 0 ? 1 : 0);
         change("999999*999999*999999*999999>0", 2, 999999L * 999999 * 999999 * 999999 > 0 ? 1 : 0);
