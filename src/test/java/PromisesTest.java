@@ -1116,46 +1116,46 @@ public final class PromisesTest {
         fromOverOthers();
     }
 
-    /** Two pasts that differ in every row: each comes back whole. */
+    /** Two pasts that differ in every row of some kind: each comes back whole. An object has 512 calls at most. */
     private static void fromOverOthers() {
-        RopeRanks x = new RopeRanks();
-        x.image(0);
-        long[] digests = new long[2];
-        for (int past = 0; past < 2; past++) {
+        for (int kind = 0; kind < 4; kind++) {
+            RopeRanks x = new RopeRanks();
+            x.image(0);
+            fill(x, kind, 0);
+            long first = x.digest();
+            x.image(1);
             x.from(0);
-            for (int p = 0; p < 10; p++) {
-                x.player(p + 20 * past);
-                for (int hard = 0; hard < 4; hard++) {
-                    x.moves(p, hard, p + past, 50 + p + hard + past);
-                }
-            }
-            for (int i = 0; i < 60; i++) {
-                x.meeting(i + 30 * past, i % 5 + 5 * past, (i + 1) % 5 + 5 * past, (i + past) % 3, i % 2 == past);
-                x.mark(i, 1, i % 3 == past);
-            }
-            for (int i = 0; i < 50; i++) {
-                for (int system = 0; system < 4; system++) {
-                    x.write(system, 'a' + past + system + i % 7);
-                }
-            }
-            for (int system = 0; system < 4; system++) {
-                x.first(system, 50 * system + past);
-                x.weight(system, 1 + system + past);
-            }
-            for (int age = 0; age < 160; age++) {
-                x.shape(age, age + past);
-            }
-            x.wide(70 + past, 80 + past);
-            digests[past] = x.digest();
-            if (past == 0) {
-                x.image(1);
+            fill(x, kind, 1);
+            due("the second past is another", x.digest() == first ? 1 : 0, 0);
+            x.from(1);
+            due("the first past", x.digest(), first);
+            x.from(0);
+            due("nothing at all", x.digest(), new RopeRanks().digest());
+        }
+    }
+
+    private static void fill(RopeRanks x, int kind, int past) {
+        for (int p = 0; p < 10 && kind < 2; p++) {
+            x.player(p + 20 * past);
+            for (int hard = 0; hard < 4 && kind == 0; hard++) {
+                x.moves(p, hard, p + past, 50 + p + hard + past);
             }
         }
-        due("the second past", x.digest() == digests[0] ? 1 : 0, 0);
-        x.from(1);
-        due("the first past", x.digest(), digests[0]);
-        x.from(0);
-        due("nothing at all", x.digest(), new RopeRanks().digest());
+        for (int i = 0; i < 60 && kind == 1; i++) {
+            x.meeting(i + 30 * past, i % 5 + 5 * past, (i + 1) % 5 + 5 * past, (i + past) % 3, i % 2 == past);
+            x.mark(i, 1, i % 3 == past);
+        }
+        for (int i = 0; i < 200 && kind == 2; i++) {
+            x.write(i % 4, 'a' + past + i % 29);
+        }
+        for (int system = 0; system < 4 && kind == 3; system++) {
+            x.first(system, 50 * system + past);
+            x.weight(system, 1 + system + past);
+        }
+        for (int age = 0; age < 160 && kind == 3; age++) {
+            x.shape(age, age + past);
+        }
+        x.wide(70 + past, 80 + past);
     }
 
     private static void count() {
