@@ -122,8 +122,20 @@ public final class FaceTest {
                 if (method.getParameterCount() > 7) {
                     fail("more than seven parameters: " + method);
                 }
+                if (Modifier.isPrivate(method.getModifiers()) && isOfTheFace(method.getName())) {
+                    fail("a private method with a public one's name: " + method);
+                }
             }
         }
+    }
+
+    private static boolean isOfTheFace(String name) {
+        for (String method : FACE) {
+            if (method.contains(" " + name + "(")) {
+                return true;
+            }
+        }
+        return false;
     }
 
     private static void source() throws IOException {

@@ -692,6 +692,11 @@ public final class QuestionsEdgesTest {
         long two = digestOf(digestOf(digestOf(born, NEW_SYSTEMS), new long[160]), NEW_REST);
         told("digest: of PLAYERS BORN, of CLASSES right, all (0, 0: not told)",
             "player(-60); player(99); moves(1, 1, 5, 6); moves(1, 3, 0, 1); digest() = " + two);
+        long met = digestOf(449, 2, 3, 1, 2, 0, 0, 0, 0, 0, 0, 0, 0, 0, 0, 0, 0, 0, 0, 0, 0, 0, 0,
+            0, 0, 1, 2, 0, 0, 99, 1, 0, 1, 1, 1, 99, 1, 0, 0, 0, 1);
+        told("digest: of MEETINGS YEAR, a, b, END, GIVEN, DOUBTED (1, 0)", "players 2; meeting(0, 0, 1, 2, false)\n"
+            + "meeting(99, 1, 0, 1, true); meeting(99, 1, 0, 0, false); mark(1, 1, true); mark(2, 1, true); digest() = "
+            + digestOf(digestOf(digestOf(met, NEW_SYSTEMS), new long[160]), NEW_REST));
         told("digest: an erased text and what is gone on from leave nothing",
             "image(0) = 1; players 2; meeting(9, 0, 1, 2, true); text 0 'xyz'; moves(0, 0, 1, 1); from(0) = 1; text 1 'xyz'\n"
             + "erase(1) = 3; digest() = " + empty);

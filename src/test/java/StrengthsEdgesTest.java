@@ -13,6 +13,7 @@ public final class StrengthsEdgesTest {
         winners();
         evenOnes();
         quarrelsByWide();
+        quarrelsFarAround();
         quarrelsByEven();
         quarrelsByShape();
         whoSaysSomething();
@@ -21,6 +22,7 @@ public final class StrengthsEdgesTest {
         spansOfChains();
         fewest();
         fewestAndLeast();
+        fewestOfEach();
         fewestBesides();
         islands();
         ropes();
@@ -150,7 +152,22 @@ public final class StrengthsEdgesTest {
             wide(10, 50) = 1
             span(4, 5, 1) = 2
             """);
-        told("a ring of all ten", CHAIN + "quarrel() = 0; meeting(1, 9, 0, 2, false); quarrel() = 1");
+        told("a ring of all ten", CHAIN + "quarrel() = 0; meeting(1, 9, 0, 2, false); quarrel() = 1; fewest() = 1");
+    }
+
+    /** All ten are even but for one win, told so that it is felt only slowly around the ring. */
+    private static void quarrelsFarAround() {
+        StringBuilder forth = new StringBuilder("players 10; wide(400, 0) = 1\n");
+        StringBuilder back = new StringBuilder("players 10; wide(400, 0) = 1\n");
+        for (int p = 1; p < 10; p++) {
+            forth.append(String.format("meeting(0, %d, %d, 1, false)%n", p, (p + 1) % 10));
+            back.append(String.format("meeting(0, %d, %d, 1, false)%n", 10 - p, (11 - p) % 10));
+        }
+        String due = "quarrel() = 1; fewest() = 1; mark(0, 1, true); quarrel() = 0; fewest() = 0";
+        told("a ring of all ten by one win: a", forth + "quarrel() = 0; meeting(0, 0, 1, 2, false); " + due);
+        told("a ring of all ten by one win: b", forth + "quarrel() = 0; meeting(0, 0, 1, 0, false); " + due);
+        told("a ring of all ten by one win, told backward: a", back + "quarrel() = 0; meeting(0, 0, 1, 2, false); " + due);
+        told("a ring of all ten by one win, told backward: b", back + "quarrel() = 0; meeting(0, 0, 1, 0, false); " + due);
     }
 
     private static void quarrelsByEven() {
@@ -294,6 +311,13 @@ public final class StrengthsEdgesTest {
             meeting(1, 9, 0, 1, false)
             span(0, 9, 0) = 9; span(0, 9, 1) = 500; span(0, 1, 1) = 492
             """);
+        StringBuilder backward = new StringBuilder("players 10\n");
+        for (int p = 8; p >= 0; p--) {
+            backward.append(String.format("meeting(0, %d, %d, 2, false)%n", p, p + 1));
+        }
+        told("the least, the greatest over nine MEETINGS told backward", backward + """
+            span(0, 9, 0) = 9; span(0, 9, 1) = 3600; span(9, 0, 0) = -3600; span(9, 0, 1) = -9
+            """);
         StringBuilder script = new StringBuilder("wide(1000, 500) = 1\n");
         for (int p = 0; p < 10; p++) {
             script.append("player(").append(p % 2).append(")\n");
@@ -370,6 +394,32 @@ public final class StrengthsEdgesTest {
             fewest() = 1
             meeting(0, 0, 1, 2, false)
             fewest() = 10
+            """);
+    }
+
+    /** Each MEETING quarrels with each other one: all but one must go. */
+    private static void fewestOfEach() {
+        told("FEWEST: all but one of three, of four, of five", """
+            player(0); player(50); wide(400, 0) = 1; shape(20, 500) = 0; shape(30, -500) = 0
+            meeting(10, 0, 1, 2, false); meeting(10, 0, 1, 0, false)
+            fewest() = 1
+            meeting(10, 0, 1, 1, false)
+            fewest() = 3
+            meeting(20, 0, 1, 1, false)
+            fewest() = 7
+            meeting(30, 0, 1, 1, false)
+            fewest() = -5
+            mark(1, 1, true)
+            fewest() = 13
+            mark(0, 0, true)
+            fewest() = 12
+            """);
+        told("FEWEST: the one that stays is not the last", """
+            player(0); player(50); wide(400, 0) = 1; shape(20, 500) = 0
+            meetings 2 (10, 0, 1, 2, false); meeting(10, 0, 1, 0, false); meeting(10, 0, 1, 1, false)
+            fewest() = 12
+            meeting(20, 0, 1, 1, false)
+            fewest() = 28
             """);
     }
 
